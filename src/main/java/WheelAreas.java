@@ -22,6 +22,7 @@ public final class WheelAreas {
     private static final int AREA_BASE = 100000;
     private static final int SWEEP_BASE = 10000;
     private static final int READS_BASE = 20000000;
+    private static final int ABOVE_ANY_ERROR = 1000000;
     private static final int MIN_TOLD = 10000000;
     private static final int MAX_TOLD = 30000000;
 
@@ -303,7 +304,7 @@ public final class WheelAreas {
             return BAD;
         }
         trial.copyFrom(now);
-        int least = Integer.MAX_VALUE;
+        int least = ABOVE_ANY_ERROR;
         int where = 0;
         for (int x = 0; x <= MAX_PLACE; x++) {
             for (int y = 0; y <= MAX_PLACE; y++) {
@@ -323,7 +324,7 @@ public final class WheelAreas {
             return BAD;
         }
         trial.copyFrom(now);
-        int least = Integer.MAX_VALUE;
+        int least = ABOVE_ANY_ERROR;
         int which = 0;
         for (int step = 1; step <= MAX_STEP; step++) {
             trial.wheelStep[w] = step;
@@ -341,7 +342,7 @@ public final class WheelAreas {
             return BAD;
         }
         trial.copyFrom(now);
-        int least = Integer.MAX_VALUE;
+        int least = ABOVE_ANY_ERROR;
         int which = 0;
         for (int kind = 0; kind < KINDS; kind++) {
             trial.wheelKind[w] = kind;
@@ -510,16 +511,17 @@ public final class WheelAreas {
         if (!within(n, 1, MAX_AHEAD) || !isEither(what)) {
             return BAD;
         }
-        if (now.wheels == 0 || now.corners == 0) {
+        int edges = now.corners;
+        if (now.wheels == 0 || edges == 0) {
             return STATE;
         }
         trial.copyFrom(now);
         int next = seed;
         int rolled = 0;
-        for (int edge = 0; edge < n; edge++) {
+        for (int i = 0; i < n; i++) {
             next = next * 1103515245 + 12345;
             int got = (next >>> 16) & 0x7fff;
-            rolled += trial.rollAll(trial.sweepOf(got % trial.corners));
+            rolled += trial.rollAll(trial.sweepOf(got % edges));
         }
         return what == 0 ? READS_BASE + trial.wheelReads[0] : rolled;
     }

@@ -124,7 +124,7 @@ public final class LanguageTest {
         while (calls.find()) {
             library.add(calls.group());
         }
-        hold(Set.of("Math.abs", "Math.max", "Integer.MAX_VALUE", "Integer.bitCount", "System.arraycopy").containsAll(library),
+        hold(Set.of("Math.abs", "Math.max", "Integer.bitCount", "System.arraycopy").containsAll(library),
             "the source uses " + library);
         methodsAreShort(whole.split("\n"));
     }

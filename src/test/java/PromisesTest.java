@@ -188,6 +188,11 @@ public final class PromisesTest {
         due("pole x", y.rule(5), 0);
         due("pole y", y.rule(6), 20);
         due("reads", y.wheel(0, 2), ZERO);
+        feedAll(y, "pole 1 2;");
+        due("a pole in each text", y.text(), 1);
+        due("pole x", y.rule(5), 1);
+        due("no corners of the text before", y.rule(0), 0);
+        due("no wheels of the text before", y.rule(1), 0);
         told("at 1 1;at 1 1;at 1 1;at 1 1;at 1 1;at 1 1;at 1 1;at 1 1;at 1 1;at 1 1;");
     }
 
@@ -209,6 +214,10 @@ public final class PromisesTest {
         refused("123", 1, 0);
         refused("plain 1; 123456", 1, 9);
         refused("plainx 1;", 2, 0);
+        refused("clain 1;", 2, 0);
+        refused("plaim 1;", 2, 0);
+        refused("a 1 1;", 2, 0);
+        refused("zz 1;", 2, 0);
         refused("plai 1;", 2, 0);
         refused(";", 2, 0);
         refused("plain 1;;", 2, 8);
@@ -350,6 +359,9 @@ public final class PromisesTest {
         due("cut(1)", x.cut(1), 4);
         due("wheel(1, 0)", x.wheel(1, 0), BAD);
         due("the first stays", x.wheel(0, 2), ZERO + 200);
+        x.put(0, 1);
+        x.trace(4);
+        x.cut(1);
         due("put(3, 9)", x.put(3, 9), 2);
         due("a new one reads 0", x.wheel(1, 2), ZERO);
         due("kind", x.wheel(1, 0), 3);
@@ -462,6 +474,14 @@ public final class PromisesTest {
         due("without corners", z.runs(9, 0), 0);
         due("without corners", z.runs(9, 1), 0);
         due("without corners", z.runs(9, 2), NONE);
+        WheelAreas first = told("free 1;plain 1;at 0 0;at 10 0;at 10 10;");
+        due("the first rests in two of three", first.runs(6, 1), 4);
+        first.cut(1);
+        first.pole(20, 0);
+        // Sweeps 0, -100, 200.
+        due("the first alone", first.runs(6, 1), 4);
+        WheelAreas onlyFirst = told("free 1;plain 1;at 0 10;at 10 10;at 10 0;at 0 0;pole 3 2;");
+        due("only the first rests", onlyFirst.runs(8, 1), 8);
         WheelAreas s = told(SMALL);
         due("some rests", s.runs(3, 1), 3);
         s.alter(1, 1, 5);
@@ -521,6 +541,10 @@ public final class PromisesTest {
         WheelAreas z = told("stick 9;at 0 0;at 2 0;at 0 2;");
         due("best of a stick one", z.best(0, 1), bestByHand(true));
         due("best of a stick one", z.best(0, 0), bestByHand(false));
+        // There and back along two lines: a free one errs unless the pole is on both.
+        WheelAreas lines = told("free 1;at 20 20;at 3 19;at 20 20;at 10 15;");
+        due("best in the last corner", lines.best(0, 0), 2020);
+        due("best in the last corner", lines.best(0, 1), 0);
         due("best without corners", told("coarse 9;").best(0, 0), 0);
         due("best without corners", told("coarse 9;").best(0, 1), 0);
     }
@@ -1044,6 +1068,8 @@ public final class PromisesTest {
         WheelAreas x = told(SQUARE);
         due("steps", x.count(4), 23);
         due("places", x.count(5), 40);
+        due("places", told(TURNED).count(5), 40);
+        due("places of the first", told("at 3 4;at 9 2;").count(5), 18);
         x.see(0, 0, ZERO);
         x.see(0, 0, ZERO);
         due("seen", x.count(0), 2);
