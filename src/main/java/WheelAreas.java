@@ -1025,14 +1025,11 @@ public final class WheelAreas {
         }
 
         void rewind() {
-            token = END;
-            tokenFrom = 0;
             tokenTo = 0;
         }
 
         void nextToken() {
             tokenFrom = endOfRun(tokenTo, ' ', ' ');
-            tokenTo = tokenFrom;
             if (tokenFrom >= size) {
                 token = END;
                 return;
