@@ -8,7 +8,9 @@ import java.nio.file.Path;
 import java.util.ArrayList;
 import java.util.Arrays;
 import java.util.List;
+import java.util.Map;
 import java.util.Set;
+import java.util.TreeMap;
 import java.util.TreeSet;
 import java.util.regex.Matcher;
 import java.util.regex.Pattern;
@@ -92,20 +94,27 @@ public final class LanguageTest {
 
     private static void nested(Class<?> face, Set<String> names) {
         hold(face.getDeclaredClasses().length <= 12, "too many classes");
+        sizes(face);
         for (Class<?> inside : face.getDeclaredClasses()) {
             hold(Modifier.isStatic(inside.getModifiers()), inside + " is not static");
             hold(!Modifier.isPublic(inside.getModifiers()) && !Modifier.isProtected(inside.getModifiers()), inside + " is too open");
-            int fields = 0;
-            for (Field f : inside.getDeclaredFields()) {
-                boolean fixed = Modifier.isStatic(f.getModifiers());
-                hold(!fixed || Modifier.isFinal(f.getModifiers()), f + " is static and not final");
-                fields += fixed ? 0 : 1;
-            }
-            hold(fields <= 20, inside + " has " + fields + " fields");
+            sizes(inside);
             for (Method m : inside.getDeclaredMethods()) {
                 hold(!names.contains(m.getName()), m + " bears the name of a public one");
-                hold(m.getParameterCount() <= 7, m + " takes too many parameters");
             }
+        }
+    }
+
+    private static void sizes(Class<?> one) {
+        int fields = 0;
+        for (Field f : one.getDeclaredFields()) {
+            boolean fixed = Modifier.isStatic(f.getModifiers());
+            hold(!fixed || Modifier.isFinal(f.getModifiers()) || f.isSynthetic(), f + " is static and not final");
+            fields += fixed ? 0 : 1;
+        }
+        hold(fields <= 20, one + " has " + fields + " fields");
+        for (Method m : one.getDeclaredMethods()) {
+            hold(m.getParameterCount() <= 7, m + " takes too many parameters");
         }
     }
 
@@ -126,25 +135,65 @@ public final class LanguageTest {
         }
         hold(Set.of("Math.abs", "Math.max", "Integer.bitCount", "System.arraycopy").containsAll(library),
             "the source uses " + library);
-        methodsAreShort(whole.split("\n"));
+        // Without what a comment or a text says, but with every line where it was.
+        String code = whole.replaceAll("//[^\n]*", " ").replaceAll("/\\*\\*[^\n]*\\*/", " ").replaceAll("\"[^\"\n]*\"", "\"\"");
+        Map<String, Set<String>> called = methods(code.split("\n"));
+        hold(called.size() > 60, "methods were not found");
+        for (String name : called.keySet()) {
+            callsAreShallow(called, name, new ArrayList<>());
+        }
+        objectsAreMadeAtFirst(code.split("\n"));
     }
 
-    private static void methodsAreShort(String[] lines) {
-        List<Integer> starts = new ArrayList<>();
-        Pattern head = Pattern.compile("^( {4}| {8})[A-Za-z].*\\) \\{$");
-        for (int i = 0; i < lines.length; i++) {
-            if (head.matcher(lines[i]).find() && !lines[i].trim().startsWith("if ") && !lines[i].trim().startsWith("for ")) {
-                starts.add(i);
+    /** What each method calls, by names alone: two methods with one name are taken as one that does what both do. */
+    private static Map<String, Set<String>> methods(String[] lines) {
+        Map<String, Set<String>> called = new TreeMap<>();
+        Pattern head = Pattern.compile("^( {4}| {8})[A-Za-z][^=]*?(\\w+)\\([^)]*\\) \\{$");
+        Pattern call = Pattern.compile("(?<!new )\\b(\\w+)\\(");
+        for (int from = 0; from < lines.length; from++) {
+            Matcher found = head.matcher(lines[from]);
+            if (!found.find() || lines[from].trim().matches("(if|for|while|switch) .*")) {
+                continue;
             }
-        }
-        hold(starts.size() > 60, "methods were not found");
-        for (int from : starts) {
-            String close = lines[from].replaceAll("[^ ].*", "") + "}";
-            int to = from;
-            while (to < lines.length && !lines[to].equals(close)) {
-                to++;
+            Set<String> calls = called.computeIfAbsent(found.group(2), name -> new TreeSet<>());
+            int to = from + 1;
+            for (; to < lines.length && !lines[to].equals(found.group(1) + "}"); to++) {
+                Matcher one = call.matcher(lines[to]);
+                while (one.find()) {
+                    calls.add(one.group(1));
+                }
             }
             hold(to - from <= 60, "line " + (from + 1) + " begins a method of " + (to - from) + " lines");
         }
+        return called;
+    }
+
+    private static void callsAreShallow(Map<String, Set<String>> called, String name, List<String> open) {
+        if (!called.containsKey(name)) {
+            return;
+        }
+        boolean fine = !open.contains(name) && open.size() < 8;
+        open.add(name);
+        hold(fine, "these calls go too deep, or come again: " + open);
+        if (fine) {
+            for (String next : called.get(name)) {
+                callsAreShallow(called, next, open);
+            }
+        }
+        open.remove(open.size() - 1);
+    }
+
+    /** All calls of a run share one room: none of them makes an object, but for the constructor. */
+    private static void objectsAreMadeAtFirst(String[] lines) {
+        boolean inMaker = false;
+        int made = 0;
+        for (String line : lines) {
+            inMaker = line.equals("    public WheelAreas() {") || inMaker && !line.equals("    }");
+            if (Pattern.compile("\\bnew\\b").matcher(line).find()) {
+                made++;
+                hold(inMaker || line.matches(" {4,8}(private )?final .* = new .*;"), "an object is made by: " + line.trim());
+            }
+        }
+        hold(made > 10, "what is made was not found");
     }
 }
